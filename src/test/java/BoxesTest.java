@@ -106,6 +106,15 @@ public final class BoxesTest {
         Check.due("21: width 2, the rest", "0 4 1 " + x.score(0, 4, 1), () -> box(x, 1));
     }
 
+    private static void promise21FirstAndLastColumn() {
+        BurstFinder x = Make.series(9, 0, 0, 0, 0, 0, 0, 6);
+        Check.due("21: at both ends", 2, () -> x.find(0, 1));
+        Check.due("21: the first column", "1 0 1 6000", () -> box(x, 0));
+        Check.due("21: the last column", "0 7 1 1531", () -> box(x, 1));
+        Check.due("21: the end of the first span", 0, () -> x.candidateAt(1));
+        Check.due("21: the last span", 1, () -> x.candidateAt(7));
+    }
+
     private static void promise21Nothing() {
         BurstFinder none = new BurstFinder();
         Check.due("21: no column", 0, () -> none.find(0, 8));
@@ -291,6 +300,7 @@ public final class BoxesTest {
         promise20Great();
         promise21Find();
         promise21Widths();
+        promise21FirstAndLastColumn();
         promise21Nothing();
         promise21AtMostEight();
         promise21Ties();
