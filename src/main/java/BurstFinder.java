@@ -84,17 +84,16 @@ public final class BurstFinder {
     }
 
     public int load() throws IllegalStateException {
-        if (!text.hasWholeColumns(data.channels)) {
+        int many = text.countColumns(data.channels);
+        if (many < 1) {
             throw new IllegalStateException("the buffer does not consist of whole columns");
         }
-        int appended = 0;
-        for (int start = 0; start < text.length; start += data.channels) {
-            data.takeColumn(text, start);
-            appended++;
+        for (int index = 0; index < many; index++) {
+            data.takeColumn(text, index * data.channels);
         }
         text.length = 0;
         forgetResults();
-        return appended;
+        return many;
     }
 
     public int inject(int slope, int column, int amplitude)
@@ -537,12 +536,12 @@ public final class BurstFinder {
             return length;
         }
 
-        /** Tells whether there is a column at least, and nothing but columns. */
-        private boolean hasWholeColumns(int channels) {
-            return length > 0
-                    && channels > 0
-                    && length % channels == 0
-                    && indexOfFirstError() == length;
+        /** Returns how many columns there are, 0 if there is anything else. */
+        private int countColumns(int channels) {
+            if (channels < 1 || length % channels != 0 || indexOfFirstError() < length) {
+                return 0;
+            }
+            return length / channels;
         }
     }
 

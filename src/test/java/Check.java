@@ -6,8 +6,18 @@ final class Check {
 
     private static int checks = 0;
     private static int wrong = 0;
+    private static String part = "";
 
     private Check() {
+    }
+
+    /** Names the part of a test to which the checks from now on belong. */
+    static void begin(String name) {
+        part = name.isEmpty() ? "" : name + ": ";
+    }
+
+    static int made() {
+        return checks;
     }
 
     /** Compares the answer of a call; a due exception is given as its class. */
@@ -16,7 +26,7 @@ final class Check {
         Object got = answer(call);
         if (!same(want, got)) {
             wrong++;
-            System.out.println(what + " answered " + got + ", due is " + want);
+            System.out.println(part + what + " answered " + got + ", due is " + want);
         }
     }
 

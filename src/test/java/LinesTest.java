@@ -100,7 +100,7 @@ public final class LinesTest {
 
     private static void promise17TreeAndStraightDiffer() {
         BurstFinder x = Make.withChannels(16);
-        for (int t = 0; t < 48; t++) {
+        for (int t = 0; t < 20; t++) {
             for (int c = 0; c < 16; c++) {
                 x.setPending(c, t * 100 + c);
             }

@@ -47,9 +47,62 @@ final class Make {
         return x;
     }
 
+    /** A finder with 2 channels and this many columns; channel 0 has the powers 1, 2, 3, ... */
+    static BurstFinder counted(int columns) {
+        return series(Edges.inside(1, columns));
+    }
+
+    static BurstFinder empty(int channels, int columns) {
+        BurstFinder x = withChannels(channels);
+        addEmpty(x, columns);
+        return x;
+    }
+
     static void addEmpty(BurstFinder x, int many) {
         for (int i = 0; i < many; i++) {
             x.advance();
+        }
+    }
+
+    /** A finder with 2 channels, 4 columns and one candidate: slope 0, column 1, width 1. */
+    static BurstFinder withCandidate() {
+        BurstFinder x = series(0, 9, 0, 0);
+        x.find(0, 1);
+        return x;
+    }
+
+    /** A full finder with up to 10 bursts in the columns 1, 6, 11, ..., the last the strongest. */
+    static BurstFinder withBursts(int many) {
+        int[] powers = new int[48];
+        for (int i = 0; i < many; i++) {
+            powers[5 * i + 1] = 100 + i;
+        }
+        return series(powers);
+    }
+
+    /**
+     * A finder with 16 channels to which this many columns came, and then 8 lines of the greatest
+     * slope from a column on. All channels but those at the ends are masked: otherwise flatter
+     * slopes, of which more lines exist, would have greater scores.
+     */
+    static BurstFinder steepAndBroad(int columns, int from) {
+        BurstFinder x = empty(16, columns);
+        for (int column = from; column < from + 8; column++) {
+            x.inject(15, column, 9999);
+        }
+        mask(x, Edges.inside(1, 14));
+        return x;
+    }
+
+    static void mask(BurstFinder x, int... channels) {
+        for (int channel : channels) {
+            x.setMasked(channel, true);
+        }
+    }
+
+    static void setAllPending(BurstFinder x, int power) {
+        for (int channel = 0; channel < x.count(0); channel++) {
+            x.setPending(channel, power);
         }
     }
 }
