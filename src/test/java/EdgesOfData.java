@@ -51,6 +51,20 @@ final class EdgesOfData {
         Check.due("dropped then", 1, () -> x.count(2));
     }
 
+    @Sentence(promise = 2, says = "There are no columns then, no column has been dropped, and the "
+            + "pending column has only powers 0.")
+    static void noSumOutlastsSetChannels() {
+        BurstFinder x = Make.withBursts(10);
+        x.find(0, 8);
+        Check.due("there was a mean", true, () -> x.mean(0) > 0.0);
+        x.setChannels(2);
+        Edges.due("mean of slope", 0.0, Edges.from0Below(2), x::mean);
+        Edges.due("sum of channel", 0, Edges.from0Below(2), x::channelSum);
+        Check.due("line 0", Make.INDEX, () -> x.lineSum(0, 0, false));
+        Check.due("no candidate in nothing", 0, () -> x.find(0, 8));
+        Check.due("as if it were new", Make.withChannels(2).digest(), x::digest);
+    }
+
     @Sentence(promise = 2, says = "The input buffer stays.")
     static void theBufferOutlastsSetChannels() {
         BurstFinder x = new BurstFinder();

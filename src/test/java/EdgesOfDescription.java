@@ -408,6 +408,25 @@ final class EdgesOfDescription {
     }
 
     @Sentence(promise = 0, says = CANDIDATES)
+    static void candidatesInTheFirstAndTheLastColumn() {
+        int[] powers = new int[48];
+        powers[0] = 7;
+        powers[47] = 9;
+        BurstFinder x = Make.series(powers);
+        // Each slope meets the first burst, and slope 1 meets it alone: it ranks before the last.
+        Check.due("found", 2, () -> x.find(0, 1));
+        Check.due("the first column", "1 0 1 46000", () -> Edges.box(x, 0));
+        Check.due("the last column", 47, () -> x.candidate(1, 1));
+        Check.due("found again, over what was found before", 2, () -> x.find(0, 1));
+        BurstFinder y = Make.series(0, 0, 0, 0, 0, 0, 9);
+        Check.due("only in the last column", 1, () -> y.find(0, 8));
+        Check.due("the narrow box", "0 6 1 6000", () -> Edges.box(y, 0));
+        BurstFinder z = Make.loaded(2, "00", "00", "00", "00", "00", "50", "09");
+        Check.due("a span up to the last column takes it from others", 1, () -> z.find(0, 1));
+        Check.due("the steep box", "1 5 1 5000", () -> Edges.box(z, 0));
+    }
+
+    @Sentence(promise = 0, says = CANDIDATES)
     static void spansMayTouch() {
         BurstFinder x = Make.series(0, 9, 5, 0, 0, 0, 0, 0);
         Check.due("next to one another", 2, () -> x.find(0, 1));
