@@ -592,10 +592,10 @@ public final class BurstFinder {
 
         /** Joins each two neighbours among the blocks of half channels into one block. */
         private void joinBlocks(int half) {
-            for (int block = 0; block < slopes; block += 2 * half) {
-                for (int slope = 0; slope < 2 * half; slope++) {
-                    joinRows(block, half, slope);
-                }
+            for (int row = 0; row < slopes; row++) {
+                // A block has as many rows as channels, a power of 2: the low bits are its slope.
+                int slope = row & (2 * half - 1);
+                joinRows(row - slope, half, slope);
             }
             int[] joined = spare;
             spare = sums;
