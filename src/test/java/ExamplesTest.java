@@ -1,4 +1,6 @@
-/** The four examples of the document, call by call. */
+import java.io.IOException;
+
+/** The four examples of the document, call by call, and once more as they stand in it. */
 public final class ExamplesTest {
     private ExamplesTest() {
     }
@@ -60,11 +62,31 @@ public final class ExamplesTest {
         Check.due("4: boxSum(0, 0, 9)", Make.ARGUMENT, () -> x.boxSum(0, 0, 9));
     }
 
-    public static void main(String[] args) {
+    /** Nothing may be left out in the calls above: there are as many of them in the document. */
+    private static void asTheyStandThere() throws IOException {
+        int above = Check.made();
+        for (String example : Document.examples()) {
+            BurstFinder x = new BurstFinder();
+            String calls = example.substring(example.indexOf(": ") + 2, example.length() - 1);
+            for (String call : calls.split("; ")) {
+                String[] part = call.split(" = ");
+                Written.due(x, "document, " + example.substring(0, 1), part[0], part[1]);
+            }
+        }
+        int there = Check.made() - above;
+        Check.due("calls in the document's examples", above, () -> there);
+    }
+
+    public static void main(String[] args) throws IOException {
         textAndOneCandidate();
         offsetsAndStrike();
         injectedLine();
         errors();
+        if (Document.isThere()) {
+            asTheyStandThere();
+        } else {
+            System.out.println("ExamplesTest: no document to read the examples in");
+        }
         Check.finish("ExamplesTest");
     }
 }

@@ -1,3 +1,4 @@
+import java.io.IOException;
 import java.lang.reflect.Constructor;
 import java.lang.reflect.Field;
 import java.lang.reflect.Method;
@@ -84,10 +85,15 @@ public final class FaceTest {
         return names;
     }
 
-    public static void main(String[] args) {
+    public static void main(String[] args) throws IOException {
         Class<?> c = BurstFinder.class;
         Check.due("the class is public and final", Modifier.PUBLIC | Modifier.FINAL, c::getModifiers);
         Check.due("the methods", new TreeSet<>(Arrays.asList(FACE)), FaceTest::openMethods);
+        if (Document.isThere()) {
+            Check.due("the document's methods", Document.face(), FaceTest::openMethods);
+        } else {
+            System.out.println("FaceTest: no document to read the face in");
+        }
         Check.due("the constants", Set.of("public static final int NONE"), FaceTest::openFields);
         Check.due("NONE", -1, () -> BurstFinder.NONE);
         Constructor<?>[] constructors = c.getDeclaredConstructors();
