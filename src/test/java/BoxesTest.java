@@ -3,12 +3,6 @@ public final class BoxesTest {
     private BoxesTest() {
     }
 
-    /** The properties 0 to 3 of a candidate, joined, so that one check shows all of it. */
-    private static String box(BurstFinder x, int index) {
-        return x.candidate(index, 0) + " " + x.candidate(index, 1) + " "
-                + x.candidate(index, 2) + " " + x.candidate(index, 3);
-    }
-
     private static void promise19BoxSum() {
         BurstFinder x = Make.series(1, 2, 4, 8, 16, 32, 64, 128, 256);
         for (int w = 1; w <= 8; w++) {
@@ -83,8 +77,8 @@ public final class BoxesTest {
     private static void promise21Find() {
         BurstFinder x = Make.series(0, 0, 9, 0, 0, 0, 5, 0, 0, 0);
         Check.due("21: one by one", 2, () -> x.find(0, 1));
-        Check.due("21: the first", "0 2 1 " + x.score(0, 2, 1), () -> box(x, 0));
-        Check.due("21: the second", "0 6 1 " + x.score(0, 6, 1), () -> box(x, 1));
+        Check.due("21: the first", "0 2 1 " + x.score(0, 2, 1), () -> Edges.box(x, 0));
+        Check.due("21: the second", "0 6 1 " + x.score(0, 6, 1), () -> Edges.box(x, 1));
         long first = x.score(0, 2, 1);
         long second = x.score(0, 6, 1);
         Check.due("21: at the second's score", 2, () -> x.find(second, 1));
@@ -98,19 +92,19 @@ public final class BoxesTest {
     private static void promise21Widths() {
         BurstFinder x = Make.series(0, 0, 6, 6, 6, 0, 0, 0, 0, 0, 0, 0);
         Check.due("21: width 3", 1, () -> x.find(3000, 3));
-        Check.due("21: the whole burst", "0 2 3 " + x.score(0, 2, 3), () -> box(x, 0));
+        Check.due("21: the whole burst", "0 2 3 " + x.score(0, 2, 3), () -> Edges.box(x, 0));
         x.find(0, 8);
-        Check.due("21: no wider than it is", "0 2 3 " + x.score(0, 2, 3), () -> box(x, 0));
+        Check.due("21: no wider than it is", "0 2 3 " + x.score(0, 2, 3), () -> Edges.box(x, 0));
         x.find(0, 2);
-        Check.due("21: width 2, the first column", "0 2 2 " + x.score(0, 2, 2), () -> box(x, 0));
-        Check.due("21: width 2, the rest", "0 4 1 " + x.score(0, 4, 1), () -> box(x, 1));
+        Check.due("21: width 2, the first column", "0 2 2 " + x.score(0, 2, 2), () -> Edges.box(x, 0));
+        Check.due("21: width 2, the rest", "0 4 1 " + x.score(0, 4, 1), () -> Edges.box(x, 1));
     }
 
     private static void promise21FirstAndLastColumn() {
         BurstFinder x = Make.series(9, 0, 0, 0, 0, 0, 0, 6);
         Check.due("21: at both ends", 2, () -> x.find(0, 1));
-        Check.due("21: the first column", "1 0 1 6000", () -> box(x, 0));
-        Check.due("21: the last column", "0 7 1 1531", () -> box(x, 1));
+        Check.due("21: the first column", "1 0 1 6000", () -> Edges.box(x, 0));
+        Check.due("21: the last column", "0 7 1 1531", () -> Edges.box(x, 1));
         Check.due("21: the end of the first span", 0, () -> x.candidateAt(1));
         Check.due("21: the last span", 1, () -> x.candidateAt(7));
     }
@@ -144,7 +138,7 @@ public final class BoxesTest {
     private static void dueFirst(String rule, String first, String other, int... powers) {
         BurstFinder x = Make.series(powers);
         x.find(0, 8);
-        Check.due("21: " + rule, first, () -> box(x, 0));
+        Check.due("21: " + rule, first, () -> Edges.box(x, 0));
         String[] part = other.split(" ");
         Check.due("21: the other score, " + rule, x.candidate(0, 3), () -> x.score(
                 Integer.parseInt(part[0]), Integer.parseInt(part[1]), Integer.parseInt(part[2])));
@@ -165,7 +159,7 @@ public final class BoxesTest {
         Make.addEmpty(x, 12);
         x.inject(3, 2, 500);
         Check.due("21: found", true, () -> x.find(0, 1) >= 1);
-        Check.due("21: the line", "3 2 1 8000", () -> box(x, 0));
+        Check.due("21: the line", "3 2 1 8000", () -> Edges.box(x, 0));
         for (int t = 0; t < 12; t++) {
             int column = t;
             boolean inside = t >= 2 && t <= 5;
@@ -186,35 +180,29 @@ public final class BoxesTest {
         Check.due("21: and are the same", 1, () -> x.candidate(0, 1));
     }
 
-    private static BurstFinder withCandidate() {
-        BurstFinder x = Make.series(0, 9, 0, 0);
-        x.find(0, 1);
-        return x;
-    }
-
     private static void dueDiscarded(String call, BurstFinder x) {
         Check.due("candidates after " + call, 0, () -> x.count(4));
         Check.due("candidate after " + call, Make.INDEX, () -> x.candidate(0, 0));
     }
 
     private static void candidatesAreDiscarded() {
-        BurstFinder x = withCandidate();
+        BurstFinder x = Make.withCandidate();
         x.setChannels(2);
         dueDiscarded("setChannels", x);
-        x = withCandidate();
+        x = Make.withCandidate();
         x.advance();
         dueDiscarded("advance", x);
         Check.due("no candidate in its column", -1, withoutCandidate(x));
-        x = withCandidate();
+        x = Make.withCandidate();
         Make.addColumns(x, "00");
         dueDiscarded("load", x);
-        x = withCandidate();
+        x = Make.withCandidate();
         x.inject(0, 0, 1);
         dueDiscarded("inject", x);
-        x = withCandidate();
+        x = Make.withCandidate();
         x.setMasked(1, false);
         dueDiscarded("setMasked that changes nothing", x);
-        x = withCandidate();
+        x = Make.withCandidate();
         x.strike(0);
         dueDiscarded("strike that changes nothing", x);
         x = Make.series(9999, 0, 0, 0);
@@ -237,7 +225,7 @@ public final class BoxesTest {
     }
 
     private static void candidatesAreKept() {
-        BurstFinder x = withCandidate();
+        BurstFinder x = Make.withCandidate();
         Check.due("wrong setChannels", Make.ARGUMENT, () -> x.setChannels(3));
         Check.due("wrong load", Make.STATE, x::load);
         Check.due("wrong inject", Make.INDEX, () -> x.inject(0, 4, 1));
@@ -250,7 +238,7 @@ public final class BoxesTest {
         x.digest();
         x.score(0, 0, 1);
         x.mean(0);
-        Check.due("the candidate is still there", "0 1 1 3000", () -> box(x, 0));
+        Check.due("the candidate is still there", "0 1 1 3000", () -> Edges.box(x, 0));
     }
 
     private static void promise22Candidate() {
